@@ -9,6 +9,7 @@ public final class LaterTest {
         heldOrNot();
         alikeOnes();
         heapsWithoutNumbers();
+        noTraceOfLongerRows();
         lucks();
         refused();
         check.end();
@@ -87,6 +88,18 @@ public final class LaterTest {
         Check.put(y, 0, GAP, GAP, GAP, GAP, 9, 8, 7);
         found(y, 4, 2, 0, 0);
         luck(y, 4, 1, 1);
+    }
+
+    private static void noTraceOfLongerRows() {
+        RoundRows x = new RoundRows();
+        Check.put(x, 0, 1, GAP, 5, GAP, 9, 9, 0);
+        for (int year = 0; year < 24; year++) {
+            x.year(1, year, year % 2 == 0 ? -99 : 99);
+        }
+        for (int y = 4; y <= 22; y++) {
+            x.found(1, y, 1);
+            found(x, 4, 3, 2, 2);
+        }
     }
 
     private static void lucks() {

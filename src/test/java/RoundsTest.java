@@ -204,6 +204,11 @@ public final class RoundsTest {
         check.due("tenth order", x.drawn(0, 2, 10, 1), 1);
         check.due("the row stays", x.dealt(0, 1), 10);
         check.due("the same again", x.drawn(0, 2, 10, 1), 1);
+        for (int year = 0; year < 24; year++) {
+            x.year(1, year, year % 2);
+        }
+        check.due("all years have numbers", x.drawn(1, 2, 100, 1), 0);
+        check.due("of a longer row no trace", x.drawn(0, 2, 10, 1), 1);
     }
 
     private static void drawnRefused() {

@@ -17,6 +17,7 @@ public final class RowsTest {
         differences();
         heldEachTime();
         fromTheLeft();
+        lastYear();
         dealtRefused();
         check.end();
     }
@@ -248,6 +249,19 @@ public final class RowsTest {
         row("s2c0102", x, GAP, 3, 5);
         row("t02d", x, GAP, 1, -5, -1);
         row("dt02", x, GAP, 1, -1, -1);
+    }
+
+    private static void lastYear() {
+        RoundRows x = new RoundRows();
+        x.year(0, 21, 1);
+        x.year(0, 22, 20);
+        x.year(0, 23, 50);
+        String[] texts = {"s2", "s3", "s4", "l1", "l2", "l3", "t22", "t23", "d", "c2223", "c2222", "dd"};
+        int[] want = {70, 71, GAP, 20, 1, GAP, -50, -50, 30, 50, GAP, 11};
+        for (int i = 0; i < texts.length; i++) {
+            Check.pad(x, texts[i]);
+            check.due("year 23 by " + texts[i], x.dealt(0, 23), want[i]);
+        }
     }
 
     private static void dealtRefused() {

@@ -155,6 +155,15 @@ public final class TrialsTest {
         RoundRows z = with(100, 0, 0);
         z.print(1, true);
         leans(z, -100, 3);
+        RoundRows full = with(100, 0, 0, 0, 0, 0, 0, 0, 0, 0, 0, 0, 0, 0, 0, 0, 0, 0, 0, 50);
+        full.print(19, true);
+        leans(full, 85, 2);
+        check.due("of twenty", full.good(50), -2);
+        full.truth(1 << 19);
+        full.reads(4, 1 << 19);
+        check.due("of twenty", full.best(0), 1);
+        check.due("of twenty", full.club(), 16);
+        check.due("of twenty", full.told(2), 1 << 19);
     }
 
     private static void readsAndBar() {
@@ -251,7 +260,14 @@ public final class TrialsTest {
         least(y, 3, 8);
         least(y, 1, 2);
         least(y, 2, 4);
-        // What is printed for one can turn another: low ones are needed for both.
+        // Trial 0 is looked at, too; a trial that does not exist is not.
+        RoundRows w = with(0, 100, 100);
+        w.print(1, true);
+        w.reads(0, 3);
+        w.reads(1, 2 + 8 + (1 << 19));
+        least(w, 1, 1);
+        check.due("no such trial to print", w.least(2, 0), -5);
+        // A man who is not told of does not count.
         RoundRows z = with(100, 100, 0);
         z.reads(0, 1 + 4);
         z.reads(1, 2);
