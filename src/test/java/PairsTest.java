@@ -126,6 +126,19 @@ public final class PairsTest {
         // k 0: 4 * 4 - 10 * 2 = -4: 16 by 20 * 4 = 1 by 5. k 1: 1, 0, 0 at 2, 4, 3: 6 - 9 = -3: 9 by 6 * 2.
         // k 2: 1, 0: 1. k 22: 0, 1: 1. k 23: 0, 0, 1 at 1, 2, 4: 12 - 7 = 5: 25 by 14 * 2. All others 0.
         check.due("by hand", x.go(0, 2), 5);
+        // k 0: 4 * 11 - 4 * 5 = 24: 576 by 24 * 27 = 8 by 9. k 23: 2, 0, 0 at 3, 1, 0: 18 - 8 = 10: 100 by 14 * 8
+        // = 25 by 28, which is more. k 1: 3, 2, 0 at 1, 0, 0: 9 - 5 = 4: 16 by 28. All others 0.
+        Check.put(x, 3, 3, 1, 0, 0);
+        Check.put(x, 4, 3, 2, 0, 0);
+        together(x, 3, 4, 0, 8, 9);
+        together(x, 3, 4, 23, 25, 28);
+        check.due("a little more", x.go(3, 4), 2);
+        // The same turned back by one year: now 8 by 9 is the other one.
+        Check.put(x, 4, 2, 0, 0, GAP);
+        x.year(4, 23, 3);
+        together(x, 3, 4, 0, 25, 28);
+        together(x, 3, 4, 1, 8, 9);
+        check.due("a little less", x.go(3, 4), 1);
     }
 
     private static void goRefused() {

@@ -155,6 +155,12 @@ public final class TrialsTest {
         RoundRows z = with(100, 0, 0);
         z.print(1, true);
         leans(z, -100, 3);
+        RoundRows near = with();
+        near.trial(2, 2);
+        near.trial(2, 4);
+        check.due("all but one", near.of(0, 2), 99);
+        near.print(0, true);
+        leans(near, -1, 2);
         RoundRows full = with(100, 0, 0, 0, 0, 0, 0, 0, 0, 0, 0, 0, 0, 0, 0, 0, 0, 0, 0, 50);
         full.print(19, true);
         leans(full, 85, 2);
