@@ -1,6 +1,7 @@
 /** Counts answers that are not as due, and ends the test with exit code 1 if there was one. */
 final class Check {
     private final String name;
+    private String test = "";
     private int asked = 0;
     private int wrong = 0;
 
@@ -8,12 +9,21 @@ final class Check {
         this.name = name;
     }
 
+    /** Answers that are not as due are told with this name from here on. */
+    void begin(String name) {
+        test = name + ": ";
+    }
+
+    int asked() {
+        return asked;
+    }
+
     void due(String call, long got, long want) {
         asked++;
         if (got != want) {
             wrong++;
             if (wrong <= 40) {
-                System.out.println(name + ": " + call + " answered " + got + ", due is " + want);
+                System.out.println(name + ": " + test + call + " answered " + got + ", due is " + want);
             }
         }
     }
