@@ -344,6 +344,9 @@ final class TrialsEdges {
         RoundRows x = Edge.withPercents(99, 100);
         x.print(1, true);
         lean(x, 1, 2);
+        x.print(1, false);
+        x.print(0, true);
+        lean(x, -1, 2);
     }
 
     static void promise19TwentyTrials() {
