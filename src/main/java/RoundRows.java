@@ -97,7 +97,7 @@ public final class RoundRows {
         if (refusal != TAKEN) {
             return GAP + refusal;
         }
-        dealtRow.take(rows[row], pad);
+        pad.deal(rows[row], dealtRow.byYear);
         return dealtRow.byYear[year];
     }
 
@@ -386,14 +386,14 @@ public final class RoundRows {
     }
 
     private void takeRounds(int row, int end, int from, int to) {
-        dealtRow.take(rows[row], pad);
+        pad.deal(rows[row], dealtRow.byYear);
         dealtRow.gather(end);
         rounds.lay(dealtRow, from, to);
     }
 
     private void takeTwo(int a, int b) {
-        dealtRow.take(rows[a], pad);
-        otherRow.take(rows[b], pad);
+        pad.deal(rows[a], dealtRow.byYear);
+        pad.deal(rows[b], otherRow.byYear);
     }
 
     private void putShare(int row, int length) {
@@ -519,16 +519,19 @@ public final class RoundRows {
             return NONE;
         }
 
-        /** Works all signs on a row; the PAD is without a FAULT. */
-        void work(int[] row) {
+        /** Puts a row, DEALT as all signs tell, into another; the PAD is without a FAULT. */
+        void deal(int[] row, int[] out) {
+            for (int year = 0; year < YEARS; year++) {
+                out[year] = row[year];
+            }
             int at = 0;
             while (at < count) {
-                workOne(at, row);
+                work(at, out);
                 at += 1 + Math.max(0, digitsBehind(signs[at]));
             }
         }
 
-        private void workOne(int at, int[] row) {
+        private void work(int at, int[] row) {
             switch (signs[at]) {
                 case 's':
                     smooth(row, digitAt(at + 1));
@@ -568,10 +571,10 @@ public final class RoundRows {
 
         /** The digit at a place; NONE, if there is none. */
         private int digitAt(int place) {
-            if (place < 0 || place >= count || !isWithin(signs[place], '0', '9')) {
+            if (place < 0 || place >= count) {
                 return NONE;
             }
-            return signs[place] - '0';
+            return signs[place] >= '0' && signs[place] <= '9' ? signs[place] - '0' : NONE;
         }
 
         private int twoDigitsAt(int place) {
@@ -647,7 +650,7 @@ public final class RoundRows {
         }
 
         private static int numberAt(int[] row, int year) {
-            return isYear(year) ? row[year] : GAP;
+            return year >= 0 && year < YEARS ? row[year] : GAP;
         }
 
         private static int hold(int v) {
@@ -661,13 +664,6 @@ public final class RoundRows {
         private final int[] numbers = new int[YEARS];
         private final int[] years = new int[YEARS];
         private int n = 0;
-
-        void take(int[] row, Pad pad) {
-            for (int year = 0; year < YEARS; year++) {
-                byYear[year] = row[year];
-            }
-            pad.work(byYear);
-        }
 
         /** Gathers the numbers of years ahead of one. */
         void gather(int end) {

@@ -1,5 +1,8 @@
 /** Counts answers that are not as due, and ends the test with exit code 1 if there was one. */
 final class Check {
+    // No test takes a tenth of it: a call that does not end must fail, too.
+    private static final long MOST_MILLISECONDS = 300000;
+
     private final String name;
     private String test = "";
     private int asked = 0;
@@ -7,6 +10,19 @@ final class Check {
 
     Check(String name) {
         this.name = name;
+        Thread watch = new Thread(this::failInTheEnd);
+        watch.setDaemon(true);
+        watch.start();
+    }
+
+    private void failInTheEnd() {
+        try {
+            Thread.sleep(MOST_MILLISECONDS);
+        } catch (InterruptedException e) {
+            return;
+        }
+        System.out.println(name + ": " + test + "no end after " + MOST_MILLISECONDS + " milliseconds");
+        Runtime.getRuntime().halt(1);
     }
 
     /** Answers that are not as due are told with this name from here on. */
