@@ -446,6 +446,52 @@ final class RowsEdges {
         fault("dddddddddddddddc2019", 18);
     }
 
+    /** Of all signs that can be said, those can stand at a place that the document names, and no other. */
+    static void promise5EverySignAtEveryPlace() {
+        String digits = "0123456789";
+        standing("", "sltcd");
+        standing("s", "2345");
+        standing("l", "123456789");
+        standing("t", "012");
+        standing("t0", digits);
+        standing("t1", digits);
+        standing("t2", "0123");
+        standing("c", "012");
+        standing("c0", digits);
+        standing("c1", digits);
+        standing("c2", "0123");
+        standing("c00", "012");
+        standing("c09", "012");
+        standing("c10", "12");
+        standing("c19", "12");
+        standing("c20", "2");
+        standing("c23", "2");
+        standing("c000", digits);
+        standing("c090", "9");
+        standing("c091", digits);
+        standing("c151", "56789");
+        standing("c152", "0123");
+        standing("c202", "0123");
+        standing("c212", "123");
+        standing("c232", "3");
+    }
+
+    /** The text is without a fault but that more must come; the dealing behind it, too. */
+    private static void standing(String text, String canStand) {
+        for (int sign = 33; sign <= 126; sign++) {
+            boolean can = canStand.indexOf(sign) >= 0;
+            String more = text + (char) sign;
+            int due = !can ? text.length() : isWhole(more) ? Edge.NONE : more.length();
+            fault(more, due);
+            fault("d" + more, due == Edge.NONE ? due : due + 1);
+        }
+    }
+
+    private static boolean isWhole(String text) {
+        int digits = "d".equals(text) ? 0 : text.charAt(0) == 't' ? 2 : text.charAt(0) == 'c' ? 4 : 1;
+        return text.length() == 1 + digits;
+    }
+
     static void promise5ASignMoreMendsIt() {
         RoundRows x = new RoundRows();
         int[] want = {1, 2, 3, 4, Edge.NONE, 6, Edge.NONE};
