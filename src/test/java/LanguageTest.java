@@ -62,6 +62,15 @@ public final class LanguageTest {
     public static void main(String[] args) throws IOException {
         signs(Files.readString(SOURCE, StandardCharsets.ISO_8859_1));
         JavaCompiler compiler = ToolProvider.getSystemJavaCompiler();
+        check.holds("java has javac beside it", compiler != null);
+        if (compiler != null) {
+            read(compiler);
+        }
+        depths();
+        check.end();
+    }
+
+    private static void read(JavaCompiler compiler) throws IOException {
         try (StandardJavaFileManager files = compiler.getStandardFileManager(null, null, null)) {
             JavacTask task = (JavacTask) compiler.getTask(null, files, null, List.of("-proc:none"), null,
                 files.getJavaFileObjects(SOURCE));
@@ -69,8 +78,6 @@ public final class LanguageTest {
             task.analyze();
             new Rules(Trees.instance(task), unit).scan(unit, null);
         }
-        depths();
-        check.end();
     }
 
     private static void signs(String source) {
